@@ -210,6 +210,7 @@ public final class BlocksTest {
         Checks.due("from nothing to block -1", x, x.copy(9, 0, -1, 0, 0), BAD, BAD);
         Checks.due("from block -1", x, x.copy(-1, 0, 0, 0, 0), BAD, BAD);
         Checks.due("to block 10", x, x.copy(0, 0, 10, 0, 0), BAD, BAD);
+        Checks.due("well again", x, x.copy(0, 0, 1, 0, 0), 1, 0);
         dueRow("nothing was copied", x, 1, 0, 0, 0);
     }
 }

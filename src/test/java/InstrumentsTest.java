@@ -74,6 +74,12 @@ public final class InstrumentsTest {
         Checks.due("note of instrument 1", x.note(1, 0, false), BAD);
         Checks.due("note of instrument -1", x.note(-1, 0, false), BAD);
         dueNext(x, "bad notes change nothing", -1.0);
+        for (int sort = GLASS; sort <= READER; sort++) {
+            Checks.due("instrument", x.instrument(sort), sort);
+            Checks.due("first note of sort " + sort, x.note(sort, 1, true), 0);
+            Checks.due("second note of sort " + sort, x.note(sort, 1, false), 1);
+            Checks.due("third note of sort " + sort, x.note(sort, 1, true), 0);
+        }
         x.next(5);
         x.note(0, 1, true);
         Checks.due("note() leaves state()", x.state(), BAD);

@@ -46,6 +46,11 @@ public final class PlayTest {
         Checks.due("kind 6 when full", x.function(6, 0), BAD);
         Checks.due("count(1)", x.count(1), 8);
         Checks.due("function() leaves state()", x.state(), 0);
+        x.instrument(TONE);
+        x.block(0, INTS, 1);
+        Checks.due("the 8th stands", x, x.play(0, 2, 7, 0, 0, 1), 1, 0);
+        Checks.due("no 9th stands", x, x.play(0, 2, 8, 0, 0, 1), BAD, BAD);
+        Checks.due("nor for agree()", x.agree(0, 8, 0), false);
     }
 
     /** A tone that gives 16 more with each sample, from -128 on, and a block of four in each lane. */
