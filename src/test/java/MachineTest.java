@@ -7,7 +7,8 @@ import java.util.function.DoubleUnaryOperator;
  * itself refuses, casts and tells bits. The seeds are fixed, so each run is the same every time.
  */
 public final class MachineTest {
-    private static final int RUNS = 4000, CALLS = 512;
+    /** All calls of a run are counted: what an object answers behind its 512th is free. */
+    private static final int RUNS = 8000, CALLS = 512, CALLS_AT_THE_END = 100;
 
     /** What an instrument or a function has against a sample by itself. */
     private static final class Own extends RuntimeException {
@@ -475,6 +476,7 @@ public final class MachineTest {
     private final Draw d;
     private String call = "";
     private long got, want;
+    private int calls, compared;
 
     private MachineTest(long seed) {
         d = new Draw(seed);
@@ -575,15 +577,29 @@ public final class MachineTest {
     private void compare(String where) {
         Checks.due(where, got, want);
         Checks.due(where + ", state()", x.state(), m.state);
-        for (int what = 0; what < 5; what++) {
-            Checks.due(where + ", count(" + what + ")", x.count(what), m.counts[what]);
+        calls += 2;
+        compared++;
+        if (compared % 4 == 0) {
+            compareCount(where, compared / 4 % 5);
         }
     }
 
-    private void compareAllSamples(int run) {
-        for (int b = 0; b < 10; b++) {
-            for (int i = 0; m.blocks[b] != null && i < Array.getLength(m.blocks[b]); i++) {
-                Checks.due("run " + run + ", at the end, at(" + b + ", " + i + ")", x.at(b, i), bits(m.blocks[b], i));
+    private void compareCount(String where, int what) {
+        Checks.due(where + ", count(" + what + ")", x.count(what), m.counts[what]);
+        calls++;
+    }
+
+    /** Counts first, then samples, from another block on in each run, as far as the calls reach. */
+    private void compareAtTheEnd(int run) {
+        String where = "run " + run + ", at the end";
+        for (int what = 0; what < 5; what++) {
+            compareCount(where, what);
+        }
+        for (int k = 0; k < 10; k++) {
+            int b = (run + k) % 10;
+            for (int i = 0; m.blocks[b] != null && i < Array.getLength(m.blocks[b]) && calls < CALLS; i++) {
+                Checks.due(where + ", at(" + b + ", " + i + ")", x.at(b, i), bits(m.blocks[b], i));
+                calls++;
             }
         }
     }
@@ -592,12 +608,12 @@ public final class MachineTest {
         int[] outcomes = new int[10];
         for (int run = 0; run < RUNS; run++) {
             MachineTest test = new MachineTest(run);
-            for (int k = 0; k < CALLS; k++) {
+            while (test.calls < CALLS - CALLS_AT_THE_END) {
                 test.oneCall();
-                test.compare("run " + run + ", call " + k + ", " + test.call);
+                test.compare("run " + run + ", call " + test.calls + ", " + test.call);
                 outcomes[-test.m.state]++;
             }
-            test.compareAllSamples(run);
+            test.compareAtTheEnd(run);
         }
         for (int cause : new int[] {0, 1, 3, 4, 5, 6, 7, 8, 9}) {
             Checks.due("outcome -" + cause + " was met", outcomes[cause] > 1000, true);
