@@ -19,6 +19,7 @@ public final class FunctionsTest {
         Checks.sentence("WAYS: 5 OWN (SILENCE; no further one is asked)", FunctionsTest::refusingFails);
         Checks.sentence("WAYS: a FAILURE of the INSTRUMENT does not go through it", FunctionsTest::failureDoesNotGoThrough);
         Checks.sentence("WAYS: a (an int, taken as a double)", FunctionsTest::beyondAnInt);
+        Checks.sentence("terms: all that are no number (none comes, not of the greatest)", FunctionsTest::theGreatest);
         Checks.sentence("WAYS: ahead of its being turned", FunctionsTest::aheadOfBeingTurned);
         Checks.sentence("WAYS: of -0.0 (each kind)", FunctionsTest::ofNegativeZero);
         Checks.sentence("17: n (0 to 40)", FunctionsTest::agreeOnNoneAndOnMost);
@@ -186,6 +187,24 @@ public final class FunctionsTest {
         dueThrough(Setups.TIMES, MAX, MAX, 2147483647.0 * 2147483647.0);
         dueThrough(Setups.TIMES, MIN, MIN, 4611686018427387904.0);
         dueThrough(Setups.TIMES, MAX, MIN, -2147483648.0 * 2147483647.0);
+    }
+
+    /** No call leads to an infinite sample or to one that is no number: these are the furthest from 0. */
+    private static void theGreatest(CallWays2 x) {
+        x.instrument(Setups.GLASS);
+        x.note(0, 1, true);
+        x.knob(0, 0, MIN);
+        x.function(Setups.TIMES, MIN);
+        x.function(Setups.TIMES, MAX);
+        double least = 2.0 * (-255 - 128) + MIN;
+        for (int lane : new int[] {Setups.FLOATS, Setups.DOUBLES}) {
+            x.block(0, lane, 2);
+            for (int f = 0; f < 2; f++) {
+                x.phase(0, -255);
+                Checks.due("play", x, x.play(0, BY_FUNCTION, f, 0, f, 1), 1, 0);
+            }
+            Checks.dueRow("lane " + lane, x, 0, least * MIN, least * MAX);
+        }
     }
 
     private static void aheadOfBeingTurned(CallWays2 x) {
